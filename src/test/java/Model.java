@@ -718,34 +718,40 @@ final class Model {
         }
     }
 
+    private int[] costsFrom(Would w, int crate, Standing s) {
+        World there = now.copy();
+        Crate c = there.crates.get(crate);
+        c.x = s.flag % text.wide;
+        c.y = s.flag / text.wide;
+        for (int place = 0; place < 6; place++) {
+            c.face.put(FACES.charAt(place), w.mark(s, place));
+        }
+        int[] costs = new int[4];
+        for (int way = 0; way < 4; way++) {
+            costs[way] = law(there, crate, way, "costs");
+        }
+        return costs;
+    }
+
     int cheapest(int crate, int flag) {
         if (!isCrate(crate) || !isFlag(flag)) {
             return NONE;
         }
         Would w = would(crate);
+        Map<Standing, int[]> costs = new HashMap<>();
+        for (Standing s : w.nexts.keySet()) {
+            costs.put(s, costsFrom(w, crate, s));
+        }
         Map<Standing, Integer> paid = new HashMap<>();
         paid.put(w.start, 0);
         boolean changed = true;
         while (changed) {
             changed = false;
             for (Standing s : w.nexts.keySet()) {
-                if (!paid.containsKey(s)) {
-                    continue;
-                }
-                for (int way = 0; way < 4; way++) {
+                for (int way = 0; way < 4 && paid.containsKey(s); way++) {
                     Standing next = w.nexts.get(s)[way];
-                    if (next == null) {
-                        continue;
-                    }
-                    World there = now.copy();
-                    Crate c = there.crates.get(crate);
-                    c.x = s.flag % text.wide;
-                    c.y = s.flag / text.wide;
-                    for (int place = 0; place < 6; place++) {
-                        c.face.put(FACES.charAt(place), w.mark(s, place));
-                    }
-                    int cost = paid.get(s) + law(there, crate, way, "costs");
-                    if (cost < paid.getOrDefault(next, Integer.MAX_VALUE)) {
+                    int cost = paid.get(s) + costs.get(s)[way];
+                    if (next != null && cost < paid.getOrDefault(next, Integer.MAX_VALUE)) {
                         paid.put(next, cost);
                         changed = true;
                     }

@@ -22,7 +22,7 @@ public final class ModelTest {
     }
 
     public static void main(String[] args) {
-        int runs = args.length > 0 ? Integer.parseInt(args[0]) : 300;
+        int runs = args.length > 0 ? Integer.parseInt(args[0]) : 200;
         int first = args.length > 1 ? Integer.parseInt(args[1]) : 0;
         for (int seed = first; seed < first + runs && wrong < 5; seed++) {
             if (new ModelTest(seed).run()) {
@@ -41,6 +41,9 @@ public final class ModelTest {
     private boolean run() {
         while (asked < CALLS && good) {
             giveText(random.nextInt(5) == 0 ? spoiled(text()) : text());
+            if (random.nextInt(4) == 0) {
+                askAllCosts();
+            }
             int calls = random.nextInt(120);
             for (int i = 0; i < calls && asked < CALLS && good; i++) {
                 call(random.nextInt(40));
@@ -55,6 +58,12 @@ public final class ModelTest {
         if (got != due && good) {
             good = false;
             System.out.println(story + call + " answered " + got + ", due is " + due);
+        }
+    }
+
+    private void askAllCosts() {
+        for (int flag = 0; flag < model.count(0) * model.count(1); flag++) {
+            same("cheapest(0," + flag + ")", program.cheapest(0, flag), model.cheapest(0, flag));
         }
     }
 
@@ -119,7 +128,19 @@ public final class ModelTest {
         return s.length() > 1900 ? s.substring(0, 1900) : s.toString();
     }
 
+    /** Costs 0 .. 99 without any order in them, so that dear short ways have cheap long ones beside them. */
+    private String wildLaw() {
+        StringBuilder s = new StringBuilder("(").append(pick(0, 99));
+        for (String name : new String[] {"left", "top", "over", "beneath", "way", "flag"}) {
+            s.append('+').append(name).append('*').append(pick(1, 999));
+        }
+        return s.append(')') + "-" + s + "/100*100";
+    }
+
     private String law(String word) {
+        if (word.equals("costs") && random.nextInt(3) == 0) {
+            return wildLaw();
+        }
         StringBuilder s = new StringBuilder();
         int ifs = random.nextInt(4) == 0 ? pick(0, 5) : random.nextInt(2);
         for (int i = 0; i < ifs; i++) {

@@ -15,6 +15,7 @@ public final class TextsTest {
         whichFaultFirst();
         faultChangesNothing();
         goodTextIsInPlace();
+        manyTexts();
         Check.end("TextsTest");
     }
 
@@ -173,6 +174,11 @@ public final class TextsTest {
         read("costs=(((((((1)))))));", 2, 12);
         good("costs=((((((1))))))*((((((1))))))+(1)+(1)+(1)+(1)+(1)+(1)+(1);");
         read("costs=if 1<(1+(1+(1+(1+(1+(1+(1)))))))then 1 else 1;", 2, 29);
+        String deep = "((((((1))))))";
+        good("costs=if " + deep + "<" + deep + " then " + deep + " else " + deep + ";");
+        read("costs=if (" + deep + ")<1 then 1 else 1;", 2, 15);
+        read("costs=if 1<1 then (" + deep + ") else 1;", 2, 24);
+        read("costs=if 1<1 then 1 else (" + deep + ");", 2, 31);
         String all = "yard 3 2;".repeat(100);
         good(all);
         good(all + " ");
@@ -227,6 +233,10 @@ public final class TextsTest {
             good("yard 2 2;" + thing + "yard 3 3;");
         }
         read("shut 4 0;", 6, 9);
+        read("shut 4 0;shut 0 0;", 6, 18);
+        read("paint 4 0 1;paint 0 0 1;", 6, 24);
+        read("shut 4 0;paint 0 0 1;crate a 1 1 0 0 0 0 0 0;", 6, 45);
+        read("crate a 1 4 0 0 0 0 0 0;crate b 1 1 0 0 0 0 0 0;", 6, 48);
         read("shut 1 1;crate a 1 1 0 0 0 0 0 0;", 6, 33);
         read("crate a 1 1 0 0 0 0 0 0;shut 1 1;", 6, 33);
         read("crate a 1 1 0 0 0 0 0 0;crate b 1 1 0 0 0 0 0 0;", 6, 48);
@@ -271,6 +281,25 @@ public final class TextsTest {
         Check.due("place stays", x.place(), 97);
         Check.due("undo", x.undo(), true);
         Check.due("place stays", x.place(), 97);
+    }
+
+    private static void manyTexts() {
+        TippedCrates x = new TippedCrates();
+        for (int i = 0; i < 20; i++) {
+            Check.put(x, "crate a 1 1 1 2 3 4 5 6;costs=" + "1+".repeat(i) + "1;slips=" + "1+".repeat(150) + "1;");
+            Check.due("text " + i, x.read(), 0);
+            Check.due("its costs", x.tells(0, 0, 1), i + 1);
+            Check.due("its slips", x.tells(0, 0, 4), 100);
+            Check.put(x, "costs=77;seed 1;yard 9 9;");
+            Check.due("a fault", x.read(), 5);
+            Check.due("still its costs", x.tells(0, 0, 1), i + 1);
+            x.hold(i % 3);
+        }
+        Check.put(x, "yard 2 2;");
+        Check.due("a good one", x.read(), 0);
+        for (int slot = 0; slot < 3; slot++) {
+            Check.due("slots hold nothing", x.restore(slot), false);
+        }
     }
 
     private static void goodTextIsInPlace() {

@@ -369,6 +369,9 @@ public final class ThingsTest {
     }
 
     private static void inMinutes() {
+        Check.due("flagIn at once", Check.of(A + "seed 1;").flagIn(1, 1), 6);
+        Check.due("then at once", Check.of(A + "seed 1;").then(0, 1, 0), 1);
+        Check.due("paidIn at once", Check.of(A + "seed 1;").paidIn(1), 1);
         TippedCrates x = Check.of(A + "seed 1;costs=3;");
         int[] flags = {0, 1, 5, 1, 2, 1, 1, 5, 4};
         int[] tops = {1, 5, 3, 5, 2, 5, 5, 3, 1};
@@ -471,6 +474,9 @@ public final class ThingsTest {
         x.hold(0);
         x.hold(1);
         Check.due("all three", x.count(11), 3);
+        x.tip(0, 0);
+        Check.due("restore(0)", x.restore(0), true);
+        Check.due("from slot 0", x.crate(0, 6), 0);
     }
 
     private static void count() {
@@ -499,5 +505,10 @@ public final class ThingsTest {
         Check.due("flag 24 shut", x.count(5), 1 << 24);
         Check.due("flag 24 marked", x.count(6), 1 << 24);
         Check.due("flag 19 taken", x.count(13), 1 << 19);
+        x = Check.of("yard 2 2;paint 0 0 9;shut 1 1;crate a 1 0 0 0 0 0 0 0;crate b 0 0 1 1 1 1 1 1;"
+                + "crate c 0 1 2 2 2 2 2 2;");
+        Check.due("all stuck", x.count(15), 0b111);
+        Check.due("flag 0 marked", x.count(6), 1);
+        Check.due("flags taken", x.count(13), 0b111);
     }
 }

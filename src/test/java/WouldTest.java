@@ -23,6 +23,7 @@ public final class WouldTest {
         rows();
         listen();
         nothingHappens();
+        atOnce();
         Check.end("WouldTest");
     }
 
@@ -159,6 +160,8 @@ public final class WouldTest {
         Check.due("turned by four", x.round(0, 1), 4);
         // One corner of it stays on the middle of the yard, so that only the three sides off it come on top.
         Check.due("tops of 2 by 2", x.tops(0), 1 << 1 | 1 << 3 | 1 << 5);
+        x = Check.of("yard 3 3;crate a 2 1 1 2 3 4 5 6;");
+        Check.due("turned on another flag", x.round(0, 1), 4);
         x = Check.of("yard 3 2;crate a 0 0 7 7 7 7 7 7;");
         Check.due("24 ways, whatever the marks", x.spots(0), 72);
         Check.due("turned, whatever the marks", x.round(0, 1), 4);
@@ -256,6 +259,15 @@ public final class WouldTest {
             Check.due("game of " + n, x.game(0, n, 0), marks[n]);
             Check.due("its way", x.game(0, n, 1), 1);
         }
+        // Down the lane 1, 3, 2, 4, 1 are on top: in six the other can always come back to 1.
+        Check.due("game of 6", x.game(0, 6, 0), 1);
+        Check.due("game of 5", x.game(0, 5, 0), 3);
+        x = Check.of("yard 2 5;shut 1 0;shut 1 1;shut 1 2;shut 1 3;shut 1 4;crate a 0 1 3 4 2 1 5 6;");
+        // From the lane's second flag: far brings 1, then 3 for sure; near brings 2, whence 3 or 4.
+        Check.due("game of 2", x.game(0, 2, 0), 3);
+        Check.due("near is as good and lower", x.game(0, 2, 1), 1);
+        Check.due("game of 1", x.game(0, 1, 0), 2);
+        Check.due("near", x.game(0, 1, 1), 1);
         x = Check.of("yard 3 3;crate a 1 1 0 0 5 5 5 5;");
         Check.due("alike", x.game(0, 1, 0), 5);
         Check.due("the lowest way", x.game(0, 1, 1), 0);
@@ -398,10 +410,38 @@ public final class WouldTest {
         x.tell(1, 9, true);
         Check.due("none fit", x.listen(3, 0, 3), -2);
         Check.due("behind more than l", x.listen(1, 0, 2), -2);
+        TippedCrates y = Check.of("yard 5 5;crate a 2 2 0 9 0 9 9 9;");
+        // Beneath behind the first: 9, 9, 9, 0; behind the second, of sixteen, 9 more seldom.
+        Check.due("by marks 0 and 9", y.listen(0, 0, 1), 1);
+        y.tell(1, 0, true);
+        Check.due("the first is known", y.listen(1, 0, 2), 2);
+        y = Check.of("yard 5 5;crate a 2 2 0 0 0 9 8 0;");
+        Check.due("0 twice, 8, 9", y.listen(0, 0, 2), 1);
         int[][] none = {{4, 0, 1}, {-1, 0, 1}, {0, 1, 1}, {0, -1, 1}, {0, 0, 0}, {0, 0, 6}};
         for (int[] one : none) {
             Check.due("listen of no such", x.listen(one[0], one[1], one[2]), -1);
         }
+    }
+
+    /** Each as the first call of a new object, so that none lives on what another one left. */
+    private static void atOnce() {
+        String text = "yard 2 5;shut 1 0;shut 1 1;shut 1 2;shut 1 3;shut 1 4;crate b 0 4 1 0 0 0 0 0;" + A;
+        Check.due("fewest", Check.of(text).fewest(1, 6, 4, -1), 3);
+        Check.due("cheapest", Check.of(text).cheapest(1, 6), 3);
+        Check.due("never", Check.of(text).never(1, 4), 0b1110111111);
+        Check.due("nearest", Check.of(text).nearest(1, 4, 0), 6);
+        Check.due("spots", Check.of(text).spots(1), 4);
+        Check.due("round", Check.of(text).round(1, 0), 2);
+        Check.due("richest", Check.of(text).richest(1, 2, 0), 6);
+        Check.due("spell", Check.of(text).spell(1, 413, 3), 1);
+        Check.due("game", Check.of(text).game(1, 3, 0), 3);
+        Check.due("tops", Check.of(text).tops(1), 0b11110);
+        Check.due("beside", Check.of(text).beside(1, 0), 3);
+        Check.due("alike", Check.of(text).alike(1, 0), 0);
+        Check.due("looks", Check.of(text).looks(1), 24);
+        Check.due("mirror", Check.of(text).mirror(0), 1);
+        Check.due("rows", Check.of(text).rows(0, 1, 3, 0), 3);
+        Check.due("listen", Check.of(text).listen(0, 1, 3), 2);
     }
 
     private static void nothingHappens() {
