@@ -1,9 +1,16 @@
+import java.io.IOException;
 import java.nio.charset.StandardCharsets;
+import java.nio.file.Files;
+import java.nio.file.Path;
 
 /** What the tests share: texts come onto a tape, answers are held against the due ones. */
 final class Check {
+    private static final Path DOCUMENT = Path.of("../shared/DOC.md");
     private static int passed = 0;
     private static int failed = 0;
+    private static String document = "";
+    private static String sentence = "";
+    private static int passedAhead = 0;
 
     private Check() {
     }
@@ -14,11 +21,36 @@ final class Check {
         } else {
             failed++;
             System.out.println(what + " answered " + got + ", due is " + want);
+            if (!sentence.isEmpty()) {
+                System.out.println("    where the document says: " + sentence);
+            }
         }
     }
 
     static void due(String what, boolean got, boolean want) {
         due(what, got ? 1 : 0, want ? 1 : 0);
+    }
+
+    /** The words of the document that the checks from here on hold the program to. */
+    static void says(String words) {
+        due("checks of: " + sentence, sentence.isEmpty() || passed + failed > passedAhead, true);
+        if (document.isEmpty()) {
+            document = documentAsOneLine();
+        }
+        // Only told, as a document written anew is no fault of the program.
+        if (!document.contains(words)) {
+            System.out.println("note: the document does not say: " + words);
+        }
+        sentence = words;
+        passedAhead = passed + failed;
+    }
+
+    private static String documentAsOneLine() {
+        try {
+            return Files.readString(DOCUMENT).replace("```text", "").replace("```", "").replaceAll("\\s+", " ");
+        } catch (IOException e) {
+            return "no document at " + DOCUMENT;
+        }
     }
 
     /** Four bytes of a text from a place on as one int, blanks behind its end. */
