@@ -73,6 +73,9 @@ public final class TextEdgesTest {
         Check.due("the last byte is read", good(" ".repeat(1991) + "yard 3 2;").count(0), 3);
         read(" ".repeat(1999) + "x", 1, 1999);
         read(" ".repeat(1996) + "yard", 1, 2000);
+        read(" ".repeat(1994) + "yard 3", 1, 2000);
+        read(" ".repeat(1995) + "seed9", 1, 2000);
+        read(" ".repeat(1992) + "crate ab", 1, 2000);
         read("\n".repeat(2000), 0, -1);
         good("");
     }
@@ -347,7 +350,12 @@ public final class TextEdgesTest {
             Check.due("by seed " + seed, good(a + "seed " + seed + ";").then(0, 1, 0), flagByLot(seed));
         }
         read("seed 10000;", 1, 5);
-        Check.due("0, if not told", good(a).then(0, 1, 0), flagByLot(0));
+        TippedCrates untold = good(a);
+        TippedCrates nought = good(a + "seed 0;");
+        for (int n = 0; n <= 20; n++) {
+            Check.due("0, if not told, in " + n, untold.then(0, n, 0), nought.then(0, n, 0));
+        }
+        Check.due("0, if not told", untold.then(0, 1, 0), flagByLot(0));
         int other = 1;
         for (int i = 0; i < 20 && flagByLot(other) == flagByLot(0); i++) {
             other++;
@@ -411,6 +419,13 @@ public final class TextEdgesTest {
         }
         String ones = "costs=" + "1+".repeat(198) + "1;";
         good(ones);
+        TippedCrates x = new TippedCrates();
+        for (int i = 0; i < 5; i++) {
+            String text = crate("a", 0, 0) + crate("b", 1, 1) + "costs=" + "1+".repeat(50) + i + "-0".repeat(137) + ";";
+            Check.put(x, text);
+            Check.due("four hundred, again", x.read(), 0);
+            Check.due("their sum", x.tells(0, 0, 1), 50 + i);
+        }
         read(ones + "yard 2 2;", 2, ones.length());
         read("costs=" + "1+".repeat(199) + "1;", 2, 6 + 398);
         read("yard 9 9;" + pad(400), 2, 9 + placeOfToken(pad(400), 396));
@@ -532,6 +547,15 @@ public final class TextEdgesTest {
         good(crate("abcdefgh", 0, 0) + crate("abcdefgi", 1, 0) + crate("bbcdefgh", 2, 0));
         good(crate("a", 0, 0) + crate("aa", 1, 0) + crate("aaa", 2, 0));
         good(crate("az", 0, 0) + crate("ba", 1, 0) + crate("z", 2, 0));
+        TippedCrates x = new TippedCrates();
+        for (int i = 0; i < 3; i++) {
+            Check.put(x, crate("a", 0, 0) + crate("b", 1, 0) + crate("c", 2, 0));
+            Check.due("told by another text", x.read(), 0);
+            Check.put(x, crate("c", 0, 0) + crate("a", 1, 0));
+            Check.due("told by another text", x.read(), 0);
+            Check.put(x, crate("a", 0, 0) + crate("a", 1, 0));
+            Check.due("told by this one", x.read(), 3);
+        }
     }
 
     private static void wrong() {
@@ -577,6 +601,19 @@ public final class TextEdgesTest {
         good("paint 1 1 4;" + crate("a", 1, 1));
         good("yard 2 2;shut 1 1;" + crate("a", 0, 0) + crate("b", 1, 0) + crate("c", 0, 1));
         good(crate("a", 0, 1) + crate("b", 1, 0) + "shut 0 0;shut 1 1;");
+        for (int one = 0; one < 10; one++) {
+            String shuts = "";
+            String paints = "";
+            String crates = "";
+            for (int i = 0; i < 10; i++) {
+                shuts += i > 7 ? "" : "shut " + (i == one ? "4 0;" : i % 4 + " 1;");
+                paints += "paint " + (i == one ? "0 4 1;" : i % 4 + " 2 1;");
+                crates += i > 2 ? "" : crate("abc".substring(i, i + 1), i == one ? 4 : i, 3);
+            }
+            read(shuts, one < 8 ? 6 : 0, one < 8 ? 72 : -1);
+            read(paints, 6, 120);
+            read(crates, one < 3 ? 6 : 0, one < 3 ? 72 : -1);
+        }
         Check.due("the default yard is kept to", good(crate("a", 3, 3)).crate(0, 6), 15);
         read(crate("a", 4, 3), 6, 24);
         read(crate("a", 3, 4), 6, 24);
@@ -662,6 +699,15 @@ public final class TextEdgesTest {
         Check.due("no more", x.back(1), -1);
         Check.put(x, "yard 2 5;");
         Check.due("what went is gone", x.read() * 100 + x.count(0) * 10 + x.count(1), 25);
+        // Bytes that went are no part of a TOKEN that ends with the tape.
+        String[] rests = {"seed 1|234;", "seed 1|;", "crate ab|cdefghi", "yard 2| 2;", "yard| 2 2;", "seed |1;"};
+        for (String rest : rests) {
+            int stays = rest.indexOf('|');
+            Check.put(x, rest.replace("|", ""));
+            x.back(rest.length() - 1 - stays);
+            Check.due("what stays of " + rest, x.read(), 1);
+            Check.due("the end of what stays", x.place(), stays);
+        }
         Check.put(x, " ".repeat(2000));
         Check.due("2,001 of 2,000", x.back(2001), -1);
         Check.due("2,000 of 2,000", x.back(2000), 0);

@@ -239,9 +239,12 @@ public final class ThingEdgesTest {
                 Check.due("a mark right", x.tells(0, 0, 4), 9);
             }
         }
-        TippedCrates x = Check.of("yard 2 2;shut 1 0;paint 1 0 8;paint 0 1 7;" + A + crate("b", 0, 1) + "slips=flag;");
-        Check.due("of a shut flag", x.tells(0, 0, 4), 8);
-        Check.due("of another crate's flag", x.tells(0, 1, 4), 7);
+        TippedCrates x = Check.of("yard 2 2;shut 1 0;paint 1 0 8;paint 0 1 7;" + A + crate("b", 0, 1)
+                + "slips=flag+5;");
+        Check.due("of a shut flag", x.tells(0, 0, 4), 13);
+        Check.due("of another crate's flag", x.tells(0, 1, 4), 12);
+        Check.due("beyond: 0", x.tells(0, 2, 4), 5);
+        Check.due("beyond: 0", x.tells(0, 3, 4), 5);
     }
 
     private static void behindTheTipping() {
@@ -404,6 +407,36 @@ public final class ThingEdgesTest {
             Check.due("once more, not twice", tipsInMinute(text + "100;"), 2);
         }
         Check.due("lots of 0 and of 99 were among them", least && most, true);
+        slipsOfLaterMinutes();
+    }
+
+    /** Of the third crate alone, as the other two are shut in, and in one minute alone. */
+    private static void slipsOfLaterMinutes() {
+        String yard = "yard 5 5;shut 1 0;shut 0 1;shut 3 0;shut 4 1;" + crate("a", 0, 0) + crate("b", 4, 0)
+                + crate("c", 2, 3);
+        int shut = 1 << 1 | 1 << 5 | 1 << 3 | 1 << 9 | 1 | 1 << 4;
+        int cases = 0;
+        for (int seed = 0; seed < 40; seed++) {
+            for (int minute : new int[] {1, 2, 7, 60}) {
+                int lot = Lots.slip(seed, minute, 2);
+                for (int slips = lot; slips <= lot + 1; slips++) {
+                    TippedCrates x = Check.of(yard + "seed " + seed + ";slips=if minute<" + minute + " then 0 else "
+                            + slips + ";");
+                    x.minutes(minute);
+                    int flag = x.crate(2, 6);
+                    int way = Lots.way(seed, minute, 2);
+                    int first = stepped(flag, way);
+                    int second = stepped(first, way);
+                    if (first == flag || second == first || ((shut >> first | shut >> second) & 1) == 1) {
+                        continue;
+                    }
+                    cases++;
+                    x.minutes(1);
+                    Check.due("slips " + slips + " by lot " + lot, x.crate(2, 6), slips > lot ? second : first);
+                }
+            }
+        }
+        Check.due("cases looked at: " + cases, cases > 40, true);
     }
 
     private static int tipsInMinute(String text) {
@@ -743,6 +776,14 @@ public final class ThingEdgesTest {
             x.paint(flag, 9);
         }
         Check.due("all flags", x.count(6), (1 << 25) - 1);
+        for (int flag = 0; flag < 25; flag++) {
+            x.paint(flag, flag % 2);
+        }
+        Check.due("1 is above 0", x.count(6), 0b0101010101010101010101010);
+        Check.due("ones, added", x.count(7), 12);
+        for (int flag = 0; flag < 25; flag++) {
+            x.paint(flag, 9);
+        }
         Check.due("all marks", x.count(7), 225);
         Check.says("14 the greatest mark of any flag,");
         for (int mark = 9; mark > 0; mark--) {

@@ -138,6 +138,15 @@ public final class WouldEdgesTest {
         Check.due("stuck, where it is", x.fewest(2, 0, 1, -1), 0);
         Check.due("stuck, another mark", x.fewest(2, 0, 2, -1), -2);
         Check.due("stuck, another flag", x.fewest(2, 3, 1, -1), -2);
+        // What was found for a crate that can go anywhere does not go for one that can go nowhere.
+        x = Check.of("yard 5 5;shut 1 0;shut 0 1;" + A + "crate b 2 2 1 2 3 4 5 6;");
+        for (int flag = 0; flag < 25; flag++) {
+            for (int mark = 1; mark < 7; mark++) {
+                boolean isThere = flag == 0 && mark == 1;
+                x.spots(1);
+                Check.due("stuck, to flag " + flag + " with " + mark, x.fewest(0, flag, mark, -1), isThere ? 0 : -2);
+            }
+        }
     }
 
     private static void cheapest() {
@@ -236,6 +245,14 @@ public final class WouldEdgesTest {
         Check.due("of four the lowest", x.nearest(0, 8, 0), 7);
         x = Check.of("yard 5 5;shut 2 1;crate a 2 2 1 2 8 8 8 8;");
         Check.due("of three the lowest", x.nearest(0, 8, 0), 11);
+        x = Check.of("yard 5 5;shut 2 1;shut 1 2;crate a 2 2 1 2 8 8 8 8;");
+        Check.due("of two the lowest", x.nearest(0, 8, 0), 13);
+        x = Check.of("yard 5 5;shut 1 0;shut 0 1;" + A + "crate b 2 2 1 2 3 4 5 6;");
+        for (int mark = 0; mark < 10; mark++) {
+            x.spots(1);
+            Check.due("stuck, " + mark, x.nearest(0, mark, 0), mark == 1 ? 0 : -2);
+            Check.due("stuck, " + mark + " by", x.nearest(0, mark, 1), mark == 1 ? 0 : -2);
+        }
         x = Check.of(SNAKE + "crate a 0 0 1 1 2 2 1 1;");
         Check.due("round the first corner", x.nearest(0, 2, 0) * 100 + x.nearest(0, 2, 1), 905);
         x = Check.of("crate a 3 3 0 9 9 9 9 9;");
@@ -263,6 +280,8 @@ public final class WouldEdgesTest {
         Check.due("never otherwise", Check.of(PAIR + A).round(0, 1), -2);
         Check.due("about a square", Check.of("yard 2 2;" + A).round(0, 1), 4);
         Check.due("whatever the marks", Check.of("yard 2 2;" + SEVENS).round(0, 1), 4);
+        Check.due("from the last flag", Check.of("yard 5 5;crate a 4 4 1 2 3 4 5 6;").round(0, 1), 4);
+        Check.due("there and back from the last flag", Check.of("yard 5 5;crate a 4 4 1 2 3 4 5 6;").round(0, 0), 2);
         String ring = "yard 4 3;shut 1 1;shut 2 1;prints=0;" + A;
         Check.due("about two shut flags", Check.of(ring).round(0, 1), 10);
         TippedCrates x = Check.of(ring);
@@ -372,11 +391,18 @@ public final class WouldEdgesTest {
         // From the middle of five flags: the other comes back from either side, or goes on to 2.
         x = Check.of("yard 5 2;shut 0 1;shut 1 1;shut 2 1;shut 3 1;shut 4 1;crate a 2 0 3 2 0 0 5 6;");
         Check.due("the other would have least", x.game(0, 2, 0), 2);
+        Check.due("and keeps it so", x.game(0, 6, 0), 2);
+        // From the second of five flags: right lets the other go on to 2, from left it can only come back to 3.
+        x = Check.of("yard 5 2;shut 0 1;shut 1 1;shut 2 1;shut 3 1;shut 4 1;crate a 1 0 3 2 0 0 5 6;");
+        Check.due("the first lets it not", x.game(0, 2, 0), 3);
+        Check.due("by left", x.game(0, 2, 1), 2);
         Check.says("GAME: what 0 which mark, 1 the WAY (-2: it can not be tipped); NONE: no such ones.");
         x = Check.of(STUCK);
         for (int n = 1; n <= 6; n++) {
             Check.due("stuck: the mark on top", x.game(2, n, 0), 1);
             Check.due("stuck: no way", x.game(2, n, 1), -2);
+            TippedCrates shutIn = Check.of("yard 5 5;shut 1 0;shut 0 1;" + SEVENS);
+            Check.due("shut in: no way", shutIn.game(0, n, 1), -2);
         }
         for (int n : new int[] {LEAST, -1, 0, 7, 8, MOST}) {
             Check.due("n " + n, x.game(0, n, 0), -1);
@@ -614,6 +640,14 @@ public final class WouldEdgesTest {
         Check.due("one row: the first", Check.of(PAIR + A).listen(0, 0, 5), 1);
         x = Check.of("yard 5 5;crate a 2 2 1 2 3 4 5 6;");
         Check.due("four ways, four marks", x.listen(0, 0, 1), 1);
+        // Of sixteen rows of two, eight go straight on or back, whereby the top or what was beneath is beneath.
+        Check.due("four at worst by the first, eight by the second",
+                Check.of("yard 5 5;crate a 2 2 1 1 3 4 5 6;").listen(0, 0, 2), 1);
+        for (int mark = 0; mark < 10; mark++) {
+            String sides = (" " + mark).repeat(4);
+            TippedCrates y = Check.of("yard 5 5;crate a 2 2 " + (mark + 1) % 10 + " " + (mark + 2) % 10 + sides + ";");
+            Check.due("sixteen " + mark + " by the first, eight by the second", y.listen(0, 0, 2), 2);
+        }
         Check.says("LISTEN, as KNOWN by k; -2: none FIT; NONE: no such ones.");
         x.tell(1, 9, true);
         Check.due("none fit", x.listen(1, 0, 1), -2);
