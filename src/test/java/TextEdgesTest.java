@@ -81,13 +81,18 @@ public final class TextEdgesTest {
     }
 
     private static void blanks() {
-        Check.says("with blanks (9, 10, 13, 32) between or not");
+        Check.says("TOKENS, the longest that can be, with blanks (9, 10, 13, 32) between or not:");
         for (char blank : new char[] {9, 10, 13, 32}) {
             String b = String.valueOf(blank);
             Check.due("blank " + (int) blank, good(b + "yard" + b + "3" + b + b + "2" + b + ";" + b).count(1), 2);
             good(b);
         }
         good("yard3 2;seed1;costs=if left<1then 2else 3;");
+        read("yard32;", 1, 6);
+        read("yards 3 2;", 1, 0);
+        read("seed1 2;", 1, 6);
+        read("costs=leftover;", 1, 6);
+        read("costs=if1<2then3else4;", 0, -1);
         good("crate a0 0 1 2 3 4 5 6;");
         for (int no : new int[] {0, 1, 8, 11, 12, 14, 31, 33, 127, 128, 160, 255}) {
             read("yard 3 2;" + (char) no, 1, 9);
