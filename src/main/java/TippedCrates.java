@@ -744,14 +744,14 @@ public final class TippedCrates {
             if (fault != 0) {
                 return false;
             }
-            if (kind() != kind) {
-                fail(SYNTAX);
-            } else if (token >= Tape.MOST_TOKENS) {
-                fail(ROOM);
-            } else {
+            boolean goesOn = tape.kinds[token] == kind;
+            if (goesOn && token < Tape.MOST_TOKENS) {
                 token++;
+                return true;
             }
-            return fault == 0;
+            fault = goesOn ? ROOM : SYNTAX;
+            faultPlace = tape.starts[token];
+            return false;
         }
 
         private int takeInt(int low, int high) {
@@ -854,28 +854,23 @@ public final class TippedCrates {
             take(word);
             take('=');
             laws.begin(word - Tape.FIRST_LAW);
-            for (int ifs = 0; ifs <= MOST_IFS && fault == 0 && kind() == Tape.IF; ifs++) {
-                readIf(ifs);
+            for (int ifs = 0; ifs < MOST_IFS && fault == 0 && kind() == Tape.IF; ifs++) {
+                take(Tape.IF);
+                readSum(0);
+                take('<');
+                readSum(0);
+                int jump = laws.write(Laws.UNLESS_LESS, 0);
+                take(Tape.THEN);
+                readSum(0);
+                laws.write(Laws.ANSWER, 0);
+                laws.leadHere(jump);
+                take(Tape.ELSE);
             }
-            readSum(0);
-            laws.write(Laws.ANSWER, 0);
-        }
-
-        private void readIf(int ifs) {
-            if (ifs >= MOST_IFS) {
+            if (kind() == Tape.IF) {
                 fail(ROOM);
-                return;
             }
-            take(Tape.IF);
-            readSum(0);
-            take('<');
-            readSum(0);
-            int jump = laws.write(Laws.UNLESS_LESS, 0);
-            take(Tape.THEN);
             readSum(0);
             laws.write(Laws.ANSWER, 0);
-            laws.leadHere(jump);
-            take(Tape.ELSE);
         }
 
         private void readSum(int depth) {
@@ -918,7 +913,7 @@ public final class TippedCrates {
         }
 
         private boolean isEither(int one, int other) {
-            return kind() == one || kind() == other;
+            return tape.kinds[token] == one || tape.kinds[token] == other;
         }
 
         private boolean fitsYard() {
