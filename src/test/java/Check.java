@@ -45,7 +45,7 @@ final class Check {
         passedAhead = passed + failed;
     }
 
-    private static String documentAsOneLine() {
+    static String documentAsOneLine() {
         try {
             return Files.readString(DOCUMENT).replace("```text", "").replace("```", "").replaceAll("\\s+", " ");
         } catch (IOException e) {

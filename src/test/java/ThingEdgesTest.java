@@ -215,8 +215,8 @@ public final class ThingEdgesTest {
     }
 
     private static void beyondTheYard() {
-        Check.says("left, top: X, Y of the flag to which it comes (beyond the YARD: what they would be); flag: the "
-                + "mark there (beyond: 0);");
+        Check.says("Of a CRATE and a WAY: left, top: X, Y of the flag to which it comes (beyond the YARD: what they "
+                + "would be); flag: the mark there (beyond: 0);");
         for (int wide = 2; wide <= 5; wide++) {
             for (int high = 2; high <= 5; high++) {
                 String all = "";
@@ -322,8 +322,8 @@ public final class ThingEdgesTest {
     }
 
     private static void moreThanNought() {
-        Check.says("if PRINTS tells more than 0, the flag has the mark that is beneath; else, if TAKES tells more than "
-                + "0, the face that is beneath has the flag's mark");
+        Check.says("then, if PRINTS tells more than 0, the flag has the mark that is beneath; else, if TAKES tells more "
+                + "than 0, the face that is beneath has the flag's mark");
         String[] laws = {"0-1", "0", "1", "9999", TOO_MANY, TOO_MANY + "-1"};
         boolean[] more = {false, false, true, true, false, true};
         for (int p = 0; p < laws.length; p++) {

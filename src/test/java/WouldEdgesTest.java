@@ -239,8 +239,8 @@ public final class WouldEdgesTest {
                 Check.due("mark " + no, x.nearest(0, no, what), -1);
             }
         }
-        Check.says("the flag on which it can be with that mark on top by fewest tippings, of alike ones the lowest; by "
-                + "how many.");
+        Check.says("NEAREST of a mark: the flag on which it can be with that mark on top by fewest tippings, of alike "
+                + "ones the lowest; by how many.");
         x = Check.of("yard 5 5;crate a 2 2 1 2 8 8 8 8;");
         Check.due("of four the lowest", x.nearest(0, 8, 0), 7);
         x = Check.of("yard 5 5;shut 2 1;crate a 2 2 1 2 8 8 8 8;");
@@ -448,7 +448,8 @@ public final class WouldEdgesTest {
         x = Check.of("yard 3 3;shut 1 0;shut 0 1;" + A + "crate b 1 1 1 1 1 1 1 1;");
         Check.due("aslant, shut in", x.beside(0, 1), -2);
         Check.due("only shut flags are next to it", x.beside(1, 0), -2);
-        Check.says("the fewest tippings behind which it is on a flag next to it (right, near, left, far).");
+        Check.says("BESIDE another CRATE: the fewest tippings behind which it is on a flag next to it (right, near, "
+                + "left, far).");
         int[][] nexts = {{3, 2}, {2, 3}, {1, 2}, {2, 1}};
         for (int[] next : nexts) {
             String b = "crate b " + next[0] + " " + next[1] + " 1 1 1 1 1 1;";
@@ -630,8 +631,8 @@ public final class WouldEdgesTest {
     }
 
     private static void listen() {
-        Check.says("the i (1 .. l) of which, once the mark beneath behind it is told, fewest are left, at worst; of "
-                + "alike ones the first.");
+        Check.says("LISTEN of l of a CRATE: the i (1 .. l) of which, once the mark beneath behind it is told, fewest "
+                + "are left, at worst; of alike ones the first.");
         TippedCrates x = Check.of(LANE + A);
         // Down the lane beneath are 4, 1, 3, 2: of two rows of two the second tipping tells which.
         Check.due("of 1", x.listen(0, 0, 1), 1);
